@@ -128,6 +128,15 @@ final class FilesTest {
             check.due("key(0, " + i + ")", x.key(0, i), 0);
             check.due("tag(0, " + i + ")", x.tag(0, i), 0);
         }
+        // the pages have been used: what was there is no record of a file any more
+        Check.fill(x, 1, 21, 22, 23, 24, 25, 26, 27, 28, 31, 32, 33, 34);
+        x.drop(1);
+        Check.fill(x, 1, 41, 42);
+        Check.fill(x, 2, 51, 52);
+        for (int file = 1; file <= 2; file++) {
+            check.due("key(" + file + ", 1)", x.key(file, 1), 0);
+            check.due("tag(" + file + ", 1)", x.tag(file, 1), 0);
+        }
     }
 
     private static void anyKeysAndTags() {

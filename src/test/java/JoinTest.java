@@ -7,6 +7,7 @@ final class JoinTest {
 
     public static void main(String[] args) {
         pairsOfLikeKeys();
+        likeKeysByWhenTheyCame();
         withItselfToItself();
         runsOfBoth();
         nothingToPair();
@@ -33,6 +34,14 @@ final class JoinTest {
         check.runs("join", x, 4, 4);
         check.due("the other way", x.join(1, 0, 2, 3), 5);
         check.file("the other way", x, 2, 200, 20, 200, 21, 201, 20, 201, 21, 300, 30);
+    }
+
+    private static void likeKeysByWhenTheyCame() {
+        ExternalSort x = new ExternalSort(40, 1);
+        Check.fill(x, 0, 5, 9, 5, 3, 4, 7, 5, 6);
+        Check.fill(x, 1, 5, 2, 6, 0, 5, 1);
+        check.due("join", x.join(0, 1, 2, 4), 6);
+        check.file("join", x, 2, 9, 2, 9, 1, 3, 2, 3, 1, 6, 2, 6, 1);
     }
 
     private static void withItselfToItself() {
