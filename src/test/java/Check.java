@@ -5,11 +5,32 @@ final class Check {
     private static final int MOST_PRINTED = 40;
 
     private final String test;
+    private final Face.Maker maker;
+    private final boolean prints;
     private int checks;
     private int wrong;
 
     Check(String test) {
+        this(test, Face::real, true);
+    }
+
+    /** What is broken on purpose shall be found wrong: nothing is printed of it. */
+    Check(String test, Face.Maker maker, boolean prints) {
         this.test = test;
+        this.maker = maker;
+        this.prints = prints;
+    }
+
+    Face make(int pages, int records) {
+        return maker.make(pages, records);
+    }
+
+    int checks() {
+        return checks;
+    }
+
+    int wrong() {
+        return wrong;
     }
 
     void due(String call, int got, int want) {
@@ -20,14 +41,14 @@ final class Check {
         checks++;
         if (!holds) {
             wrong++;
-            if (wrong <= MOST_PRINTED) {
+            if (prints && wrong <= MOST_PRINTED) {
                 System.out.println(test + ": " + complaint);
             }
         }
     }
 
     /** Records are given as key, tag, key, tag, .. */
-    void file(String when, ExternalSort x, int file, int... keysAndTags) {
+    void file(String when, Face x, int file, int... keysAndTags) {
         int count = keysAndTags.length / 2;
         due(when + ": size(" + file + ")", x.size(file), count);
         for (int i = 0; i < count; i++) {
@@ -36,7 +57,7 @@ final class Check {
         }
     }
 
-    void file(String when, ExternalSort x, int file, List<int[]> records) {
+    void file(String when, Face x, int file, List<int[]> records) {
         int[] flat = new int[2 * records.size()];
         for (int i = 0; i < records.size(); i++) {
             flat[2 * i] = records.get(i)[0];
@@ -46,14 +67,14 @@ final class Check {
     }
 
     /** What told() says from 0 on. */
-    void told(String when, ExternalSort x, int... wants) {
+    void told(String when, Face x, int... wants) {
         for (int what = 0; what < wants.length; what++) {
             due(when + ": told(" + what + ")", x.told(what), wants[what]);
         }
     }
 
     /** How many records the runs had, and that there is no run more. */
-    void runs(String when, ExternalSort x, int... wants) {
+    void runs(String when, Face x, int... wants) {
         for (int i = 0; i < wants.length; i++) {
             due(when + ": run(" + i + ")", x.run(i), wants[i]);
         }
@@ -61,9 +82,30 @@ final class Check {
         due(when + ": run(-1)", x.run(-1), ExternalSort.NONE);
     }
 
-    static void fill(ExternalSort x, int file, int... keysAndTags) {
+    static void fill(Face x, int file, int... keysAndTags) {
         for (int i = 0; i + 1 < keysAndTags.length; i += 2) {
             x.append(file, keysAndTags[i], keysAndTags[i + 1]);
+        }
+    }
+
+    /** Keys -1, -2, ..: as many as are in memory are a run. */
+    static void fillFalling(Face x, int file, int count) {
+        for (int i = 1; i <= count; i++) {
+            x.append(file, -i, i);
+        }
+    }
+
+    /** Keys 1, 2, ..: one run. */
+    static void fillRising(Face x, int file, int count) {
+        for (int i = 1; i <= count; i++) {
+            x.append(file, i, i);
+        }
+    }
+
+    /** The same key, with tags 1, 2, .. */
+    static void fillAlike(Face x, int file, int key, int count) {
+        for (int i = 1; i <= count; i++) {
+            x.append(file, key, i);
         }
     }
 

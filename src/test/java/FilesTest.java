@@ -24,14 +24,14 @@ final class FilesTest {
             {Integer.MIN_VALUE, Integer.MAX_VALUE, 1, 16},
         };
         for (int[] c : cases) {
-            ExternalSort x = new ExternalSort(c[0], c[1]);
+            Face x = check.make(c[0], c[1]);
             String when = "new(" + c[0] + ", " + c[1] + ")";
             check.told(when, x, 0, 0, 0, 0, 0, 0, c[2], c[2], c[3]);
         }
     }
 
     private static void newObjectIsEmpty() {
-        ExternalSort x = new ExternalSort(5, 3);
+        Face x = check.make(5, 3);
         for (int file = 0; file < 6; file++) {
             check.file("new", x, file);
             check.due("new: key", x.key(file, 0), 0);
@@ -43,7 +43,7 @@ final class FilesTest {
     }
 
     private static void appendFillsPages() {
-        ExternalSort x = new ExternalSort(6, 2);
+        Face x = check.make(6, 2);
         int[] freeAfter = {5, 5, 4, 4, 3};
         for (int i = 0; i < freeAfter.length; i++) {
             check.due("append " + i, x.append(3, 10 - i, i), i + 1);
@@ -56,7 +56,7 @@ final class FilesTest {
     }
 
     private static void appendOnFullDisk() {
-        ExternalSort x = new ExternalSort(2, 2);
+        Face x = check.make(2, 2);
         Check.fill(x, 0, 1, 1, 2, 2);
         check.due("append takes the last page", x.append(1, 3, 3), 1);
         check.due("append on the full disk", x.append(0, 4, 4), NONE);
@@ -70,7 +70,7 @@ final class FilesTest {
     }
 
     private static void appendBehindSorted() {
-        ExternalSort x = new ExternalSort(20, 2);
+        Face x = check.make(20, 2);
         Check.fill(x, 0, 3, 1, 2, 2, 1, 3);
         check.due("sort", x.sort(0, 0, 3, 0), 3);
         check.due("append in the last page", x.append(0, 0, 4), 4);
@@ -81,7 +81,7 @@ final class FilesTest {
     }
 
     private static void appendIsNoTransfer() {
-        ExternalSort x = new ExternalSort(20, 1);
+        Face x = check.make(20, 1);
         Check.fill(x, 0, 3, 1, 2, 2);
         check.told("appended", x, 0, 0, 0, 0, 0, 0, 18);
         x.sort(0, 1, 3, 0);
@@ -92,7 +92,7 @@ final class FilesTest {
     }
 
     private static void dropFreesPages() {
-        ExternalSort x = new ExternalSort(9, 4);
+        Face x = check.make(9, 4);
         Check.fill(x, 0, 1, 1, 2, 2, 3, 3, 4, 4, 5, 5);
         Check.fill(x, 1, 6, 6);
         check.due("drop(0)", x.drop(0), 2);
@@ -108,7 +108,7 @@ final class FilesTest {
     }
 
     private static void noSuchFile() {
-        ExternalSort x = new ExternalSort(9, 4);
+        Face x = check.make(9, 4);
         Check.fill(x, 0, 1, 1);
         Check.fill(x, 5, 1, 1);
         for (int file : new int[] {-1, 6, 7, Integer.MIN_VALUE, Integer.MAX_VALUE}) {
@@ -122,7 +122,7 @@ final class FilesTest {
     }
 
     private static void noSuchRecord() {
-        ExternalSort x = new ExternalSort(9, 4);
+        Face x = check.make(9, 4);
         Check.fill(x, 0, 11, 12, 13, 14);
         for (int i : new int[] {-1, 2, 3, 4, 100, Integer.MIN_VALUE, Integer.MAX_VALUE}) {
             check.due("key(0, " + i + ")", x.key(0, i), 0);
@@ -142,7 +142,7 @@ final class FilesTest {
     private static void anyKeysAndTags() {
         int low = Integer.MIN_VALUE;
         int high = Integer.MAX_VALUE;
-        ExternalSort x = new ExternalSort(40, 1);
+        Face x = check.make(40, 1);
         Check.fill(x, 0, high, low, low, high, 0, 0, -1, low, low, low);
         check.file("as appended", x, 0, high, low, low, high, 0, 0, -1, low, low, low);
         x.sort(0, 1, 3, 0);

@@ -23,7 +23,7 @@ final class JoinTest {
     }
 
     private static void pairsOfLikeKeys() {
-        ExternalSort x = new ExternalSort(40, 2);
+        Face x = check.make(40, 2);
         Check.fill(x, 0, 1, 10, 2, 20, 2, 21, 3, 30);
         Check.fill(x, 1, 2, 200, 3, 300, 2, 201, 4, 400);
         check.due("join", x.join(0, 1, 2, 3), 5);
@@ -37,7 +37,7 @@ final class JoinTest {
     }
 
     private static void likeKeysByWhenTheyCame() {
-        ExternalSort x = new ExternalSort(40, 1);
+        Face x = check.make(40, 1);
         Check.fill(x, 0, 5, 9, 5, 3, 4, 7, 5, 6);
         Check.fill(x, 1, 5, 2, 6, 0, 5, 1);
         check.due("join", x.join(0, 1, 2, 4), 6);
@@ -45,7 +45,7 @@ final class JoinTest {
     }
 
     private static void withItselfToItself() {
-        ExternalSort x = new ExternalSort(40, 4);
+        Face x = check.make(40, 4);
         Check.fill(x, 3, 7, 1, 5, 2, 7, 3);
         check.due("join", x.join(3, 3, 3, 3), 5);
         check.file("join", x, 3, 2, 2, 1, 1, 1, 3, 3, 1, 3, 3);
@@ -55,7 +55,7 @@ final class JoinTest {
 
     /** a has the runs 3 | 2 | 1 (two passes), b the runs 2 3 | 1 (one pass). */
     private static void runsOfBoth() {
-        ExternalSort x = new ExternalSort(40, 1);
+        Face x = check.make(40, 1);
         Check.fill(x, 0, 3, 1, 2, 2, 1, 3);
         Check.fill(x, 1, 2, 4, 3, 5, 1, 6);
         check.due("join", x.join(0, 1, 1, 3), 3);
@@ -66,7 +66,7 @@ final class JoinTest {
     }
 
     private static void nothingToPair() {
-        ExternalSort x = new ExternalSort(40, 1);
+        Face x = check.make(40, 1);
         Check.fill(x, 0, 1, 1, 2, 2);
         Check.fill(x, 1, 3, 3);
         Check.fill(x, 2, 9, 9);
@@ -83,7 +83,7 @@ final class JoinTest {
     }
 
     private static void tooLarge() {
-        ExternalSort x = new ExternalSort(100, 2);
+        Face x = check.make(100, 2);
         Check.fill(x, 0, 5, 1, 5, 2, 5, 3);
         Check.fill(x, 1, 5, 4, 6, 6, 5, 5);
         check.due("a may have more than H", x.join(0, 1, 2, 3), 6);
@@ -100,17 +100,17 @@ final class JoinTest {
     }
 
     private static void tooLargeComesBehindSorting() {
-        ExternalSort x = new ExternalSort(5, 1);
+        Face x = check.make(5, 1);
         Check.fill(x, 0, 5, 1, 5, 2);
         check.due("FULL in sorting b", x.join(0, 0, 1, 3), FULL);
-        ExternalSort y = new ExternalSort(6, 1);
+        Face y = check.make(6, 1);
         Check.fill(y, 0, 5, 1, 5, 2);
         check.due("too large", y.join(0, 0, 1, 3), TOO_LARGE);
         check.due("FREE", y.told(6), 4);
     }
 
     private static void tooLargeComesAheadOfFull() {
-        ExternalSort x = new ExternalSort(9, 1);
+        Face x = check.make(9, 1);
         Check.fill(x, 0, 5, 1, 5, 2, 5, 3);
         check.due("nine pairs find six pages", x.join(0, 0, 1, 5), FULL);
         check.due("and are too many for H of 2", x.join(0, 0, 1, 4), TOO_LARGE);
@@ -118,7 +118,7 @@ final class JoinTest {
 
     private static void sortedPagesAreFreeAheadOfWriting() {
         for (int pages = 10; pages <= 13; pages++) {
-            ExternalSort x = new ExternalSort(pages, 1);
+            Face x = check.make(pages, 1);
             Check.fill(x, 0, 5, 1, 5, 2, 5, 3);
             // nine pages are in use behind the sortings; six of them go ahead of nine new ones
             check.due("nine pairs, " + pages, x.join(0, 0, 0, 5), pages < 12 ? FULL : 9);
@@ -129,7 +129,7 @@ final class JoinTest {
 
     private static void oldPagesAreNot() {
         for (int pages = 12; pages <= 13; pages++) {
-            ExternalSort x = new ExternalSort(pages, 1);
+            Face x = check.make(pages, 1);
             Check.fill(x, 0, 5, 1, 5, 2, 5, 3);
             Check.fill(x, 1, 8, 8);
             check.due("nine pairs, " + pages, x.join(0, 0, 1, 5), pages < 13 ? FULL : 9);
@@ -138,7 +138,7 @@ final class JoinTest {
     }
 
     private static void fullInTheSecondSorting() {
-        ExternalSort x = new ExternalSort(7, 1);
+        Face x = check.make(7, 1);
         Check.fill(x, 0, 1, 1, 2, 2);
         Check.fill(x, 1, 3, 3, 4, 4);
         check.due("three pages for four", x.join(0, 1, 2, 3), FULL);
@@ -149,7 +149,7 @@ final class JoinTest {
     }
 
     private static void peakOfWhatComes() {
-        ExternalSort x = new ExternalSort(60, 1);
+        Face x = check.make(60, 1);
         Check.fill(x, 0, 1, 1, 1, 2, 1, 3, 1, 4);
         Check.fill(x, 5, 0, 0);
         check.due("join", x.join(0, 0, 1, 16), 16);
@@ -158,7 +158,7 @@ final class JoinTest {
     }
 
     private static void wrongArguments() {
-        ExternalSort x = new ExternalSort(20, 2);
+        Face x = check.make(20, 2);
         Check.fill(x, 0, 3, 1);
         for (int file : new int[] {-1, 6, Integer.MIN_VALUE, Integer.MAX_VALUE}) {
             check.due("a is " + file, x.join(file, 0, 0, 3), NONE);

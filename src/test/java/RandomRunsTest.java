@@ -8,7 +8,7 @@ final class RandomRunsTest {
 
     private final Random random;
     private final String name;
-    private final ExternalSort x;
+    private final Face x;
     private final Model model;
     private final int keys;
     private final int tags;
@@ -17,7 +17,7 @@ final class RandomRunsTest {
     private RandomRunsTest(long seed, int pages, int records, int keys, int tags) {
         random = new Random(seed);
         name = "seed " + seed + ", new(" + pages + ", " + records + ")";
-        x = new ExternalSort(pages, records);
+        x = check.make(pages, records);
         model = new Model(pages, records);
         this.keys = keys;
         this.tags = tags;
@@ -127,7 +127,7 @@ final class RandomRunsTest {
             check.due(when + ": tag behind", x.tag(file, model.size(file)), 0);
         }
         for (int file = 0; file < 6; file++) {
-            check.file(when, x, file, model.file(file));
+            check.file(when, x, file, model.list(file));
         }
     }
 }

@@ -24,7 +24,7 @@ final class SortTest {
     }
 
     private static void oneRun() {
-        ExternalSort x = new ExternalSort(30, 2);
+        Face x = check.make(30, 2);
         Check.fill(x, 0, 1, 1, 2, 2, 3, 3, 5, 5, 4, 4);
         check.due("sort", x.sort(0, 1, 3, 0), 5);
         check.file("rising but for one", x, 1, 1, 1, 2, 2, 3, 3, 4, 4, 5, 5);
@@ -41,7 +41,7 @@ final class SortTest {
 
     private static void likeKeysInEachMode() {
         for (int budget = 3; budget <= 16; budget++) {
-            ExternalSort x = new ExternalSort(60, 1);
+            Face x = check.make(60, 1);
             Check.fill(x, 0, 2, 9, 1, 8, 2, 7, 1, 6, 2, 9, 1, 5);
             check.due("mode 0", x.sort(0, 1, budget, 0), 6);
             check.file("mode 0", x, 1, 1, 8, 1, 6, 1, 5, 2, 9, 2, 7, 2, 9);
@@ -54,7 +54,7 @@ final class SortTest {
 
     /** H is 2: 5 3 | 4 in, 3 and 4 and 5 out; 1 stands ahead of 3, so it waits. */
     private static void runsAndOnePass() {
-        ExternalSort x = new ExternalSort(40, 2);
+        Face x = check.make(40, 2);
         Check.fill(x, 0, 5, 1, 3, 2, 4, 3, 1, 4);
         check.due("sort", x.sort(0, 1, 3, 0), 4);
         check.told("two runs", x, 10, 5, 5, 2, 1, 5, 36, 40, 2);
@@ -64,7 +64,7 @@ final class SortTest {
 
     /** H is 1 and two runs are merged at a time: falling keys are a run each. */
     private static void runLeftAloneStays() {
-        ExternalSort x = new ExternalSort(40, 1);
+        Face x = check.make(40, 1);
         Check.fill(x, 0, 5, 1, 4, 2, 3, 3, 2, 4, 1, 5);
         check.due("sort", x.sort(0, 1, 3, 0), 5);
         // passes over 1 1 1 1 (1), then 2 2 (1), then 4 1: 4 + 4 + 5 pages are merged
@@ -74,7 +74,7 @@ final class SortTest {
     }
 
     private static void budgetIsTheWidthOfMerging() {
-        ExternalSort x = new ExternalSort(512, 1);
+        Face x = check.make(512, 1);
         for (int i = 0; i < 30; i++) {
             x.append(0, -i, i);
         }
@@ -91,7 +91,7 @@ final class SortTest {
     }
 
     private static void toItselfAndToAnother() {
-        ExternalSort x = new ExternalSort(20, 2);
+        Face x = check.make(20, 2);
         Check.fill(x, 0, 3, 1, 2, 2, 1, 3);
         Check.fill(x, 1, 9, 9, 8, 8, 7, 7, 6, 6, 5, 5);
         // two runs, of 2 and 1 records, are a page each; the old pages of the file are not FREE ahead
@@ -105,7 +105,7 @@ final class SortTest {
     }
 
     private static void withoutRecords() {
-        ExternalSort x = new ExternalSort(6, 2);
+        Face x = check.make(6, 2);
         Check.fill(x, 1, 4, 4, 5, 5, 6, 6);
         check.due("sort of nothing", x.sort(0, 1, 3, 1), 0);
         check.file("sort of nothing", x, 1);
@@ -118,7 +118,7 @@ final class SortTest {
     }
 
     private static void fullLeavesAll() {
-        ExternalSort x = new ExternalSort(9, 1);
+        Face x = check.make(9, 1);
         Check.fill(x, 0, 2, 1, 1, 2);
         check.due("sort", x.sort(0, 1, 3, 0), 2);
         Check.fill(x, 2, 5, 5, 4, 4, 3, 3);
@@ -139,7 +139,7 @@ final class SortTest {
 
     private static void justEnoughPages() {
         for (int pages = 6; pages <= 8; pages++) {
-            ExternalSort x = new ExternalSort(pages, 2);
+            Face x = check.make(pages, 2);
             // runs of 2, 2, 2 records beside the file's three pages; runs of 3 and 3 take four pages
             Check.fill(x, 0, 6, 1, 5, 2, 4, 3, 3, 4, 2, 5, 1, 6);
             check.due("three runs, " + pages, x.sort(0, 0, 3, 0), 6);
@@ -152,7 +152,7 @@ final class SortTest {
     }
 
     private static void wrongArguments() {
-        ExternalSort x = new ExternalSort(20, 2);
+        Face x = check.make(20, 2);
         Check.fill(x, 0, 3, 1, 2, 2, 1, 3);
         int[] wrongFiles = {-1, 6, Integer.MIN_VALUE, Integer.MAX_VALUE};
         for (int file : wrongFiles) {
@@ -174,7 +174,7 @@ final class SortTest {
     }
 
     private static void toldIsOfTheLatestDone() {
-        ExternalSort x = new ExternalSort(20, 1);
+        Face x = check.make(20, 1);
         Check.fill(x, 0, 2, 1, 1, 2);
         x.sort(0, 1, 3, 0);
         check.told("done", x, 8, 4, 4, 2, 1, 4, 16);
@@ -191,7 +191,7 @@ final class SortTest {
     }
 
     private static void distinctInOneRun() {
-        ExternalSort x = new ExternalSort(40, 2);
+        Face x = check.make(40, 2);
         Check.fill(x, 0, 1, 1, 1, 1, 1, 1, 2, 2, 1, 1, 2, 2);
         check.due("distinct", x.distinct(0, 1, 3), 2);
         check.file("distinct", x, 1, 1, 1, 2, 2);
@@ -201,7 +201,7 @@ final class SortTest {
 
     /** The runs 3 4 and 1 3 4 (one 1 is gone there): 3 and 4 come twice to the merging. */
     private static void distinctInMerging() {
-        ExternalSort x = new ExternalSort(40, 2);
+        Face x = check.make(40, 2);
         Check.fill(x, 0, 3, 0, 4, 0, 1, 0, 3, 0, 1, 0, 4, 0);
         check.due("distinct", x.distinct(0, 0, 3), 3);
         check.file("distinct", x, 0, 1, 0, 3, 0, 4, 0);
@@ -210,7 +210,7 @@ final class SortTest {
     }
 
     private static void distinctMindsTags() {
-        ExternalSort x = new ExternalSort(40, 1);
+        Face x = check.make(40, 1);
         Check.fill(x, 0, 1, 2, 1, 1, 1, 2, 0, 1, 0, 1, 1, 1);
         check.due("distinct", x.distinct(0, 1, 3), 3);
         check.file("distinct", x, 1, 0, 1, 1, 1, 1, 2);
@@ -223,7 +223,7 @@ final class SortTest {
     }
 
     private static void distinctFailsAsSort() {
-        ExternalSort x = new ExternalSort(4, 1);
+        Face x = check.make(4, 1);
         Check.fill(x, 0, 1, 1, 1, 1, 1, 1);
         check.due("one page is enough for what is left", x.distinct(0, 1, 3), 1);
         check.due("none is", x.distinct(0, 1, 3), FULL);
