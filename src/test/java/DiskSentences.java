@@ -1,5 +1,6 @@
 import java.lang.reflect.InvocationHandler;
 import java.lang.reflect.Proxy;
+import java.util.ArrayList;
 import java.util.List;
 
 /** "What it is", the terms of THE DISK, and promises 1, 2, 3, 7, 8 and 9. */
@@ -10,6 +11,17 @@ final class DiskSentences {
     private static final int[] NO_FILES = {-1, 6, 7, LOW, HIGH};
 
     static List<Sentence> all() {
+        List<Sentence> all = new ArrayList<>();
+        all.addAll(records());
+        all.addAll(files());
+        all.addAll(newObject());
+        all.addAll(append());
+        all.addAll(drop());
+        all.addAll(reading());
+        return all;
+    }
+
+    private static List<Sentence> records() {
         return List.of(
             Sentence.of("What it is",
                 "An object is used for at most 512 calls after it has been made; what later calls answer is free.",
@@ -70,7 +82,11 @@ final class DiskSentences {
                         boolean byTags = mode == 1 && one[0] == other[0];
                         return byTags ? one[1] - other[1] : super.compare(mode, one, other);
                     }
-                })),
+                })));
+    }
+
+    private static List<Sentence> files() {
+        return List.of(
             Sentence.of("Terms", "FILES 0 .. 5:", DiskSentences::sixFiles,
                 Sentence.fault("no file 0", (p, r) -> new Model(p, r) {
                     @Override
@@ -178,7 +194,11 @@ final class DiskSentences {
                     public int size(int file) {
                         return Math.max(0, super.size(file));
                     }
-                })),
+                })));
+    }
+
+    private static List<Sentence> newObject() {
+        return List.of(
             Sentence.of("Promise 1", "PAGES is taken into 1 .. 512,", DiskSentences::pagesOfTheDisk,
                 Sentence.fault("2 at the least", (p, r) -> new Model(Math.max(2, p), r)),
                 Sentence.fault("511 at the most", (p, r) -> new Model(Math.min(511, p), r)),
@@ -204,13 +224,47 @@ final class DiskSentences {
                 Sentence.fault("0 is the most", (p, r) -> new Model(p, r == 0 ? 16 : r)),
                 Sentence.fault("below 0 is the most", (p, r) -> new Model(p, r < 0 ? 16 : r)),
                 Sentence.fault("17 is 1", (p, r) -> new Model(p, r > 16 ? r - 16 : r))),
+            Sentence.of("Promise 1", "RECORDS into 1 .. 16;", DiskSentences::all8192Records,
+                Sentence.fault("one of 8192 has no room", (p, r) -> new Model(p, r) {
+                    @Override
+                    public int append(int file, int key, int tag) {
+                        return size(file) >= 8191 ? NONE : super.append(file, key, tag);
+                    }
+                }),
+                Sentence.fault("one more has room", (p, r) -> new Model(p, r) {
+                    @Override
+                    public int append(int file, int key, int tag) {
+                        return size(file) == 8192 ? 8193 : super.append(file, key, tag);
+                    }
+                })),
+            Sentence.of("Promise 1", "RECORDS into 1 .. 16;", DiskSentences::all8192AreSorted,
+                Sentence.fault("a page is kept back", (p, r) -> new Model(p, r) {
+                    @Override
+                    void writePage() throws Refused {
+                        if (free() < 2) {
+                            throw new Refused(-2);
+                        }
+                        super.writePage();
+                    }
+                }),
+                Sentence.fault("no more than 63 runs are merged", (p, r) -> new Model(p, r) {
+                    @Override
+                    List<List<int[]>> pass(List<List<int[]>> runs, int width, int mode, boolean once)
+                            throws Refused {
+                        return super.pass(runs.subList(0, Math.min(63, runs.size())), width, mode, once);
+                    }
+                })),
             Sentence.of("Promise 1", "all are FREE.", DiskSentences::allAreFree,
                 Sentence.fault("the first is kept back", (p, r) -> new Model(p, r) {
                     @Override
                     int free() {
                         return super.free() - 1;
                     }
-                })),
+                })));
+    }
+
+    private static List<Sentence> append() {
+        return List.of(
             Sentence.of("Promise 2", "A record comes behind a file: how many it has.", DiskSentences::appendCounts,
                 Sentence.fault("how many it had", (p, r) -> new Model(p, r) {
                     @Override
@@ -275,7 +329,11 @@ final class DiskSentences {
                         told[2]++;
                         return super.append(file, key, tag);
                     }
-                })),
+                })));
+    }
+
+    private static List<Sentence> drop() {
+        return List.of(
             Sentence.of("Promise 3", "A file is empty again: how many pages are FREE by that.",
                 DiskSentences::dropCountsPages,
                 Sentence.fault("how many records", (p, r) -> new Model(p, r) {
@@ -328,7 +386,11 @@ final class DiskSentences {
                         int pages = super.drop(Math.max(0, Math.min(5, file)));
                         return isFile(file) ? pages : NONE;
                     }
-                })),
+                })));
+    }
+
+    private static List<Sentence> reading() {
+        return List.of(
             Sentence.of("Promise 7", "How many records a file has.", DiskSentences::sizeCounts,
                 Sentence.fault("how many pages", (p, r) -> new Model(p, r) {
                     @Override
@@ -687,6 +749,43 @@ final class DiskSentences {
                 c.due(when + ": append", x.append(0, i, i), i);
             }
             c.due(when + ": one more", x.append(0, 0, 0), NONE);
+        }
+    }
+
+    private static void all8192Records(Check c) {
+        Face x = c.make(512, 16);
+        Check.fillAlike(x, 0, 1, 89);
+        c.due("496 pages", x.join(0, 0, 1, 16), 89 * 89);
+        c.told("496 pages", x, 6 * 6 + 496, 24, 12 + 496, 2, 0, 502, 10, 512, 16);
+        c.due("no room for them twice", x.sort(1, 1, 16, 0), -2);
+        c.due("drop", x.drop(0), 6);
+        for (int i = 89 * 89 + 1; i <= 8192; i++) {
+            c.due("append " + i, x.append(1, i, -i), i);
+        }
+        c.due("FREE", x.told(6), 0);
+        c.due("one more", x.append(1, 0, 0), NONE);
+        c.due("one more of another", x.append(0, 0, 0), NONE);
+        c.due("the first", x.key(1, 0), 1);
+        c.due("the last", x.key(1, 8191), 8192);
+        c.due("the last", x.tag(1, 8191), -8192);
+        c.due("one behind", x.key(1, 8192), 0);
+        c.due("drop", x.drop(1), 512);
+    }
+
+    /** Half of the disk is sorted to the other half: 64 runs of 64 records, and no page is to spare. */
+    private static void all8192AreSorted(Check c) {
+        Face x = c.make(512, 16);
+        Check.fillAlike(x, 0, 1, 64);
+        c.due("256 pages", x.join(0, 0, 1, 16), 4096);
+        c.due("no room beside file 0", x.sort(1, 1, 3, 2), -2);
+        x.drop(0);
+        c.due("falling", x.sort(1, 1, 3, 2), 4096);
+        c.told("falling", x, 2 * 7 * 256, 7 * 256, 7 * 256, 64, 6, 512, 256);
+        c.due("the first run", x.run(0), 64);
+        c.due("the last run", x.run(63), 64);
+        for (int i = 0; i < 4096; i += 63) {
+            c.due("key of " + i, x.key(1, i), 64 - i / 64);
+            c.due("tag of " + i, x.tag(1, i), i % 64 + 1);
         }
     }
 

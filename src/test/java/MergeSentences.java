@@ -342,6 +342,42 @@ final class MergeSentences {
                     int free() {
                         return super.free() - lost;
                     }
+                })),
+            Sentence.of("Terms", quote, MergeSentences::nothingIsLeftOfIt,
+                Sentence.fault("the next call begins with what was held", (p, r) -> new Model(p, r) {
+                    private boolean refused;
+
+                    @Override
+                    int failed(int to, int answer) {
+                        refused = true;
+                        return super.failed(to, answer);
+                    }
+
+                    @Override
+                    int done(int to, List<int[]> result) {
+                        List<int[]> mixed = new ArrayList<>(result);
+                        if (refused && !mixed.isEmpty()) {
+                            mixed.set(0, new int[2]);
+                        }
+                        refused = false;
+                        return super.done(to, mixed);
+                    }
+                }),
+                Sentence.fault("the runs of the refused call are told", (p, r) -> new Model(p, r) {
+                    private List<Integer> left = new ArrayList<>();
+
+                    @Override
+                    int failed(int to, int answer) {
+                        left = lengths;
+                        return super.failed(to, answer);
+                    }
+
+                    @Override
+                    int done(int to, List<int[]> result) {
+                        lengths.addAll(0, left);
+                        left = new ArrayList<>();
+                        return super.done(to, result);
+                    }
                 })));
     }
 
@@ -627,6 +663,15 @@ final class MergeSentences {
             Check.fillFalling(z, 1, 1);
             c.due("join" + when, z.join(0, 1, 0, 3), pages < 6 ? FULL : 1);
         }
+        // the runs 5 6, 7 and 1: the page that is not full as the first run ends, and the last one
+        for (int pages = 3; pages <= 6; pages++) {
+            boolean full = pages < 5;
+            Face x = c.make(pages, 2);
+            Check.fill(x, 0, 5, 0, 6, 0, 7, 0, 1, 0);
+            c.due("a run's end on " + pages, x.sort(0, 0, 3, 0), full ? FULL : 4);
+            c.due("a run's end of distinct on " + pages, x.distinct(0, 0, 3), full ? FULL : 4);
+            c.due("its file on " + pages, x.key(0, 0), full ? 5 : 1);
+        }
         Face one = c.make(1, 1);
         Check.fill(one, 0, 1, 1);
         c.due("sort on the one page that is there", one.sort(0, 0, 3, 0), FULL);
@@ -659,6 +704,40 @@ final class MergeSentences {
         c.file("as before", y, 0, 5, 1, 5, 2, 5, 3);
         c.file("as before", y, 1, 8, 8);
         c.told("as before", y, 0, 0, 0, 0, 0, 0, 7);
+    }
+
+    private static void nothingIsLeftOfIt(Check c) {
+        for (int records = 1; records <= 3; records++) {
+            Face x = c.make(5, records);
+            Check.fillRising(x, 0, 3 * records);
+            Check.fill(x, 1, 2 * records, 2 * records);
+            String when = records + " a page";
+            c.due(when + ": one page for three", x.sort(0, 0, 3, 0), FULL);
+            c.due(when + ": one page for one", x.sort(1, 1, 3, 0), 1);
+            c.file(when + ": sort", x, 1, 2 * records, 2 * records);
+            // the record that was held as the disk was FULL is the first of the next file
+            c.due(when + ": one page for three", x.distinct(0, 0, 3), FULL);
+            c.due(when + ": one page for one", x.distinct(1, 1, 3), 1);
+            c.file(when + ": distinct", x, 1, 2 * records, 2 * records);
+            c.told(when + ": distinct", x, 2, 1, 1, 1, 0, 5, 1);
+        }
+        // the page of a run's end has a record, as the disk is FULL
+        Face y = c.make(4, 2);
+        Check.fill(y, 0, 5, 1, 6, 2, 7, 3, 1, 4);
+        Check.fill(y, 1, 9, 9);
+        c.due("a run's end", y.sort(0, 0, 3, 0), FULL);
+        c.due("one page for one", y.sort(1, 1, 3, 0), 1);
+        c.file("one page for one", y, 1, 9, 9);
+        // both are sorted; then nine pairs find no room, or are too large
+        Face z = c.make(10, 1);
+        Check.fillAlike(z, 0, 5, 3);
+        Check.fill(z, 1, 6, 8);
+        c.due("what comes has no room", z.join(0, 0, 2, 5), FULL);
+        c.due("what comes is too large", z.join(0, 0, 2, 3), -3);
+        c.due("one pair", z.join(1, 1, 2, 3), 1);
+        c.file("one pair", z, 2, 8, 8);
+        c.told("one pair", z, 7, 4, 3, 2, 0, 6, 5);
+        c.runs("one pair", z, 1, 1);
     }
 
     private static void sortedToItself(Check c) {
