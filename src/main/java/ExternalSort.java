@@ -453,11 +453,19 @@ public final class ExternalSort {
         }
 
         int keyOf(int lane) {
-            return isUsedUp(lane) ? 0 : keys[lane * disk.records + at[lane]];
+            if (isUsedUp(lane)) {
+                return 0;
+            }
+            int cell = lane * disk.records + at[lane];
+            return cell >= 0 && cell < keys.length ? keys[cell] : 0;
         }
 
         int tagOf(int lane) {
-            return isUsedUp(lane) ? 0 : tags[lane * disk.records + at[lane]];
+            if (isUsedUp(lane)) {
+                return 0;
+            }
+            int cell = lane * disk.records + at[lane];
+            return cell >= 0 && cell < tags.length ? tags[cell] : 0;
         }
 
         void step(int lane) {
@@ -592,7 +600,7 @@ public final class ExternalSort {
                 return;
             }
             int winner = leaf;
-            for (int node = (leaves + leaf) / 2; node > 0; node /= 2) {
+            for (int node = (leaves + leaf) / 2; node > 0 && node < losers.length; node /= 2) {
                 int waiting = losers[node];
                 if (waiting == NONE) {
                     losers[node] = winner;
@@ -833,6 +841,7 @@ public final class ExternalSort {
         private final Output output;
         private final int[] keys;
         private final int[] tags;
+        /** Where a's records end, and b's behind them: as they are set, they are kept within the rows. */
         private int split;
         private int end;
         private int groupA;

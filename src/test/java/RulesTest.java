@@ -17,6 +17,13 @@ import java.util.regex.Pattern;
 final class RulesTest {
     private static final Check check = new Check("RulesTest");
     private static final Class<?> CLASS = ExternalSort.class;
+    private static final Path FILE = Path.of("src/main/java/ExternalSort.java");
+    private static final int MOST_CALLS_DEEP = 8;
+    private static final int MOST_LINES = 60;
+    /** Of what LANGUAGE.md allows: what the class needs. */
+    private static final Set<String> LIBRARY = Set.of("java.lang.Math.max", "java.lang.Math.min");
+    private static final Set<String> TYPES = Set.of("int", "boolean", "int[]", "Disk", "Inputs", "Joiner",
+        "LoserTree", "Output", "Sorter", "Tally");
     private static final Set<String> FACE = new TreeSet<>(List.of(
         "int append(int, int, int)", "int drop(int)", "int sort(int, int, int, int)",
         "int distinct(int, int, int)", "int join(int, int, int, int)", "int size(int)", "int key(int, int)",
@@ -31,6 +38,7 @@ final class RulesTest {
         membersAreHidden();
         classesInside();
         source();
+        tree();
         check.end();
     }
 
@@ -42,8 +50,7 @@ final class RulesTest {
                 check.that(method + " is static", !Modifier.isStatic(method.getModifiers()));
                 methods.add(method.getReturnType() + " " + method.getName() + "(" + types(method.getParameterTypes()) + ")");
             } else {
-                boolean same = FACE.stream().anyMatch(face -> face.contains(" " + method.getName() + "("));
-                check.that(method + " bears the name of a public one", !same);
+                hasNameOfItsOwn(method);
             }
         }
         check.that("public methods are " + methods, methods.equals(FACE));
@@ -52,6 +59,11 @@ final class RulesTest {
             && Modifier.isPublic(makers[0].getModifiers()) && types(makers[0].getParameterTypes()).equals("int, int"));
         check.that("public fields are " + Arrays.toString(CLASS.getFields()),
             CLASS.getFields().length == 1 && CLASS.getFields()[0].getName().equals("NONE"));
+    }
+
+    private static void hasNameOfItsOwn(Method method) {
+        boolean same = FACE.stream().anyMatch(face -> face.contains(" " + method.getName() + "("));
+        check.that(method + " bears the name of a public one", !same);
     }
 
     private static String types(Class<?>[] types) {
@@ -77,6 +89,9 @@ final class RulesTest {
             check.that(one + " can be seen", !Modifier.isPublic(how) && !Modifier.isProtected(how));
             check.that(one + " has classes inside", one.getDeclaredClasses().length == 0);
             looksOf(one);
+            for (Method method : one.getDeclaredMethods()) {
+                hasNameOfItsOwn(method);
+            }
         }
     }
 
@@ -94,23 +109,42 @@ final class RulesTest {
     }
 
     private static void source() throws IOException {
-        String text = Files.readString(Path.of("src/main/java/ExternalSort.java"));
+        String text = Files.readString(FILE);
         check.that("a sign beyond 127", text.chars().allMatch(sign -> sign < 128));
         String code = text.replaceAll("(?s)/\\*.*?\\*/", " ").replaceAll("//[^\\n]*", " ");
         for (String word : FORBIDDEN) {
             Matcher found = Pattern.compile(word).matcher(code);
             check.that("the source has " + word, !found.find());
         }
-        int longest = 0;
-        int since = 0;
-        for (String line : text.split("\n")) {
-            boolean begins = line.matches("( {4}| {8})\\S.*\\(.*\\) \\{");
-            since = begins ? 0 : since + 1;
-            if (line.matches("( {4}| {8})\\}")) {
-                longest = Math.max(longest, since);
-                since = 0;
-            }
+    }
+
+    /** What javac tells of the source, rule by rule. */
+    private static void tree() throws IOException {
+        Source source = new Source(FILE);
+        none("2: classes in methods", source.classesInMethods);
+        for (String type : source.types) {
+            check.that("3: the type " + type, TYPES.contains(type.replace("ExternalSort.", "")));
         }
-        check.that("a method of " + longest + " lines", longest <= 60);
+        for (String call : source.libraryCalls) {
+            check.that("4: a call of " + call, LIBRARY.contains(call));
+        }
+        none("7: divisors that are not tested", source.divisorsNotTested);
+        none("9: loops whose end does not stand in their own lines", source.loopsWithoutBound);
+        for (String method : source.calls.keySet()) {
+            check.that("8: recursion under " + method, source.depthFrom(method) > 0);
+        }
+        for (String method : source.publicMethods) {
+            int depth = source.depthFrom(method);
+            check.that("11: calls go " + depth + " deep in " + method, depth <= MOST_CALLS_DEEP);
+        }
+        check.that("no public method is found", source.publicMethods.size() == FACE.size() + 1);
+        source.lines.forEach((method, lines) ->
+            check.that("11: " + method + " has " + lines + " lines", lines <= MOST_LINES));
+        none("12: objects that calls make", source.madeByCalls);
+        none("12: objects handed out", source.handedOut);
+    }
+
+    private static void none(String rule, List<String> found) {
+        check.that(rule + ": " + found, found.isEmpty());
     }
 }
