@@ -35,6 +35,7 @@ final class RulesTest {
 
     public static void main(String[] args) throws IOException {
         face();
+        faceIsTheDocuments();
         membersAreHidden();
         classesInside();
         source();
@@ -59,6 +60,22 @@ final class RulesTest {
             && Modifier.isPublic(makers[0].getModifiers()) && types(makers[0].getParameterTypes()).equals("int, int"));
         check.that("public fields are " + Arrays.toString(CLASS.getFields()),
             CLASS.getFields().length == 1 && CLASS.getFields()[0].getName().equals("NONE"));
+    }
+
+    private static void faceIsTheDocuments() throws IOException {
+        String document = Files.readString(Path.of("../shared/DOC.md"));
+        int from = document.indexOf("public final class ExternalSort {");
+        String face = document.substring(Math.max(0, from), Math.max(0, document.indexOf("```", from)));
+        Set<String> methods = new TreeSet<>();
+        Matcher method = Pattern.compile("public (int \\w+\\(.*?\\));").matcher(face);
+        while (method.find()) {
+            methods.add(method.group(1).replaceAll("int \\w+(?=[,)])", "int"));
+        }
+        check.that("the document's methods are " + methods, methods.equals(FACE));
+        check.that("the document's constructor is another", face.contains("public ExternalSort(int pages, int records);"));
+        check.that("the document has other members", face.split("public ", -1).length == FACE.size() + 4);
+        check.that("the document's constant is another",
+            face.contains("public static final int NONE = " + ExternalSort.NONE + ";"));
     }
 
     private static void hasNameOfItsOwn(Method method) {
